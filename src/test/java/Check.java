@@ -1,0 +1,69 @@
+/** Counts the answers that are not as due; a test's main method ends with end(). */
+final class Check {
+
+    /** A call of the face. */
+    interface Call {
+        int answer();
+    }
+
+    private static int wrong = 0;
+    private static int looked = 0;
+
+    private Check() {
+    }
+
+    static void due(String call, long got, long want) {
+        looked++;
+        if (got != want) {
+            tell(call + " answered " + got + ", due is " + want);
+        }
+    }
+
+    static void dueThrow(String call, Class<? extends RuntimeException> want, Call made) {
+        looked++;
+        String got;
+        try {
+            got = "answered " + made.answer();
+        } catch (RuntimeException e) {
+            if (e.getClass() == want) {
+                return;
+            }
+            got = "threw " + e;
+        }
+        tell(call + " " + got + ", due is " + want.getSimpleName());
+    }
+
+    static void tell(String fault) {
+        wrong++;
+        if (wrong <= 40) {
+            System.out.println(fault);
+        }
+    }
+
+    static void end() {
+        System.out.println(looked + " answers looked at, " + wrong + " not as due");
+        if (wrong != 0) {
+            System.exit(1);
+        }
+    }
+
+    /** A new object with this text. */
+    static LongCaterpillars withText(String text) {
+        LongCaterpillars x = new LongCaterpillars();
+        write(x, text);
+        return x;
+    }
+
+    static void write(LongCaterpillars x, String text) {
+        for (int k = 0; k < text.length(); k++) {
+            x.append(text.charAt(k));
+        }
+    }
+
+    /** A new object with the house that this text tells. */
+    static LongCaterpillars house(String text) {
+        LongCaterpillars x = withText(text);
+        x.load();
+        return x;
+    }
+}
