@@ -108,8 +108,8 @@ public final class LongCaterpillars {
         forgetRemembered();
         emptySlots();
         int leftOut = 0;
-        for (int k = 1; k < text.size(); k += 1 + Text.shapeOf(text.at(k)).length()) {
-            if (!doesCommand(k)) {
+        for (int k = 1; k < text.size(); k++) {
+            if (!text.isDigitAt(k) && !doesCommand(k)) {
                 leftOut++;
             }
         }
@@ -606,6 +606,10 @@ public final class LongCaterpillars {
             return k >= 0 && k < used && k < MOST_CHARACTERS ? characters[k] : NONE;
         }
 
+        boolean isDigitAt(int k) {
+            return isDigit(at(k), '0', '9');
+        }
+
         int digit(int k) {
             return at(k) - '0';
         }
@@ -637,8 +641,8 @@ public final class LongCaterpillars {
             return place < shape.length() ? used : NONE;
         }
 
-        /** What follows the letter of a command, a sign for each digit; nothing if no command has this letter. */
-        static String shapeOf(int letter) {
+        /** The digits behind the letter of a command, a sign for each; nothing if there is no such command. */
+        private static String shapeOf(int letter) {
             switch (letter) {
                 case 'h':
                     return "RrRrl";

@@ -105,6 +105,7 @@ public final class TextTest {
         error("Lh0036", 5);
         error("Lh00000", 6);
         error("Lh0000a", 6);
+        error("Lh0000:", 6);
         error("Lh:", 2);
         error("Lh/", 2);
         error("Lh0:", 3);
@@ -113,6 +114,10 @@ public final class TextTest {
         error("Lt61", 3);
         error("Lt69", 3);
         error("Lt0a", 3);
+        error("Lt0:", 3);
+        error("Lt1:", 3);
+        error("Lt5/", 3);
+        error("Lx2:", 3);
         error("Lx4", 2);
         error("Lx36", 3);
         error("Lx3t", 3);

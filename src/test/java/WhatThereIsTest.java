@@ -23,6 +23,7 @@ public final class WhatThereIsTest {
         waitsInTheCrack();
         ringOfTwo();
         ringOfFour();
+        ringOfTen();
         noRing();
         Check.end();
     }
@@ -321,6 +322,17 @@ public final class WhatThereIsTest {
         LongCaterpillars z = Check.house("Lh30332h33302h07093h09213h21193h19073t02");
         Check.due("ring(0) of two rings", z.ring(0), 0);
         Check.due("ring(1) of two rings", z.ring(1), 2);
+    }
+
+    private static void ringOfTen() {
+        // round the whole house, each in two rooms
+        LongCaterpillars x = Check.house("Lh00022h02042h04112h11232h23352h35332h33312h31242h24122h12002t02");
+        Check.due("waitsFor(9)", x.waitsFor(9), 0);
+        Check.due("ring(0) of ten", x.ring(0), 0);
+        Check.due("ring(1) of ten", x.ring(1), 10);
+        x.pull(5);
+        Check.due("ring(0) of ten, one pulled", x.ring(0), NONE);
+        Check.due("ring(1) of ten, one pulled", x.ring(1), NONE);
     }
 
     private static void noRing() {
