@@ -8,6 +8,7 @@ final class Check {
 
     private static int wrong = 0;
     private static int looked = 0;
+    private static int sentences = 0;
 
     private Check() {
     }
@@ -33,6 +34,20 @@ final class Check {
         tell(call + " " + got + ", due is " + want.getSimpleName());
     }
 
+    /** Runs the test of one sentence of the document; behind what it finds wrong the sentence is told. */
+    static void sentence(String words, Runnable test) {
+        sentences++;
+        int wrongBefore = wrong;
+        try {
+            test.run();
+        } catch (RuntimeException e) {
+            tell("a call that should answer threw " + e);
+        }
+        if (wrong != wrongBefore) {
+            System.out.println("-- does not hold: " + words);
+        }
+    }
+
     static void tell(String fault) {
         wrong++;
         if (wrong <= 40) {
@@ -41,7 +56,8 @@ final class Check {
     }
 
     static void end() {
-        System.out.println(looked + " answers looked at, " + wrong + " not as due");
+        String ofSentences = sentences == 0 ? "" : " for " + sentences + " sentences";
+        System.out.println(looked + " answers looked at" + ofSentences + ", " + wrong + " not as due");
         if (wrong != 0) {
             System.exit(1);
         }
