@@ -34,6 +34,18 @@ final class Check {
         tell(call + " " + got + ", due is " + want.getSimpleName());
     }
 
+    static void noSuch(String call, Call made) {
+        dueThrow(call, IndexOutOfBoundsException.class, made);
+    }
+
+    static void refused(String call, Call made) {
+        dueThrow(call, IllegalArgumentException.class, made);
+    }
+
+    static void notNow(String call, Call made) {
+        dueThrow(call, IllegalStateException.class, made);
+    }
+
     /** Runs the test of one sentence of the document; behind what it finds wrong the sentence is told. */
     static void sentence(String words, Runnable test) {
         sentences++;
@@ -60,6 +72,15 @@ final class Check {
         System.out.println(looked + " answers looked at" + ofSentences + ", " + wrong + " not as due");
         if (wrong != 0) {
             System.exit(1);
+        }
+    }
+
+    /** Whether all that can be asked of its state is answered as it was when this was read. */
+    static void dueState(String what, LongCaterpillars x, String want) {
+        looked++;
+        String got = Reading.state(x);
+        if (!got.equals(want)) {
+            tell(what + ": the state is " + got + ", due is " + want);
         }
     }
 

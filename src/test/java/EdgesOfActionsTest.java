@@ -51,23 +51,6 @@ public final class EdgesOfActionsTest {
         Check.end();
     }
 
-    private static void noSuch(String call, Check.Call made) {
-        Check.dueThrow(call, IndexOutOfBoundsException.class, made);
-    }
-
-    private static void refused(String call, Check.Call made) {
-        Check.dueThrow(call, IllegalArgumentException.class, made);
-    }
-
-    private static void notNow(String call, Check.Call made) {
-        Check.dueThrow(call, IllegalStateException.class, made);
-    }
-
-    private static void same(String what, LongCaterpillars x, String due) {
-        String got = Reading.state(x);
-        Check.due(what + " (" + got + ", due is " + due + ")", got.equals(due) ? 1 : 0, 1);
-    }
-
     private static void everythingButTextAndSlots() {
         LongCaterpillars x = Check.house("Lh00059h05009r1x20t03");
         String before = Reading.state(x);
@@ -76,7 +59,7 @@ public final class EdgesOfActionsTest {
         Check.write(x, "Lr2");
         x.save(0);
         x.undo();
-        same("undone", x, before);
+        Check.dueState("undone", x, before);
         Check.due("the text is not taken back", x.clearText(), 3);
         Check.due("the save slot is not taken back", x.restore(0), 8);
     }
@@ -87,11 +70,11 @@ public final class EdgesOfActionsTest {
         x.rule(0);
         x.shut(7, false);
         x.rule(0);
-        same("nothing has become different", x, before);
+        Check.dueState("nothing has become different", x, before);
         Check.due("undo() of rule(0)", x.undo(), 2);
         Check.due("undo() of shut(7, false)", x.undo(), 1);
         Check.due("undo() of rule(0)", x.undo(), 0);
-        notNow("undo()", x::undo);
+        Check.notNow("undo()", x::undo);
         LongCaterpillars y = new LongCaterpillars();
         y.shut(7, true);
         y.shut(7, true);
@@ -108,8 +91,8 @@ public final class EdgesOfActionsTest {
         y.runScript(1, 100001);
         y.simulate(1, 1);
         y.save(0);
-        refused("rule(3)", () -> y.rule(3));
-        notNow("undo(), no action since", y::undo);
+        Check.refused("rule(3)", () -> y.rule(3));
+        Check.notNow("undo(), no action since", y::undo);
     }
 
     private static void undoIsNone() {
@@ -119,7 +102,7 @@ public final class EdgesOfActionsTest {
         Check.due("undo()", x.undo(), 1);
         Check.due("undo() again takes back one more", x.undo(), 0);
         Check.due("about(5)", x.about(5), 0);
-        notNow("undo() a third time", x::undo);
+        Check.notNow("undo() a third time", x::undo);
         // behind undo the states count on from where they are
         x.ticks(3);
         Check.due("undo()", x.undo(), 0);
@@ -135,7 +118,7 @@ public final class EdgesOfActionsTest {
         }
         for (int k = 4; k >= 0; k--) {
             Check.due("undo()", x.undo(), k);
-            same("undone, action " + k, x, states.get(k));
+            Check.dueState("undone, action " + k, x, states.get(k));
         }
     }
 
@@ -173,7 +156,7 @@ public final class EdgesOfActionsTest {
             for (int k = remembered - 1; k >= 0; k--) {
                 Check.due("undo() behind " + actions + " actions", x.undo(), k);
             }
-            notNow("undo() number " + (remembered + 1) + " behind " + actions + " actions", x::undo);
+            Check.notNow("undo() number " + (remembered + 1) + " behind " + actions + " actions", x::undo);
             Check.due("about(5) behind " + actions + " actions, undone", x.about(5), actions - remembered);
         }
     }
@@ -192,7 +175,7 @@ public final class EdgesOfActionsTest {
             Check.due("undo(), " + k + " left", x.undo(), k);
             Check.due("about(5), " + k + " left", x.about(5), 11 + k);
         }
-        notNow("undo() of a forgotten one", x::undo);
+        Check.notNow("undo() of a forgotten one", x::undo);
         Check.due("about(5), nothing left", x.about(5), 11);
         // however many are forgotten
         LongCaterpillars y = new LongCaterpillars();
@@ -203,16 +186,16 @@ public final class EdgesOfActionsTest {
             y.undo();
             Check.due("about(8), undone down to " + k, y.about(8), k % 3);
         }
-        notNow("undo() number 15", y::undo);
+        Check.notNow("undo() number 15", y::undo);
     }
 
     private static void loadAndRestoreAreNone() {
         LongCaterpillars x = Check.withText("Lt05");
         x.load();
-        notNow("undo() behind load", x::undo);
+        Check.notNow("undo() behind load", x::undo);
         x.save(0);
         x.restore(0);
-        notNow("undo() behind restore", x::undo);
+        Check.notNow("undo() behind restore", x::undo);
         Check.due("about(5)", x.about(5), 5);
         x.ticks(1);
         Check.due("undo()", x.undo(), 0);
@@ -252,13 +235,13 @@ public final class EdgesOfActionsTest {
 
     private static void hatchNoRoom() {
         LongCaterpillars x = new LongCaterpillars();
-        noSuch("hatch(-1, 0, 1)", () -> x.hatch(-1, 0, 1));
-        noSuch("hatch(36, 0, 1)", () -> x.hatch(36, 0, 1));
-        noSuch("hatch(0, -1, 1)", () -> x.hatch(0, -1, 1));
-        noSuch("hatch(0, 36, 1)", () -> x.hatch(0, 36, 1));
+        Check.noSuch("hatch(-1, 0, 1)", () -> x.hatch(-1, 0, 1));
+        Check.noSuch("hatch(36, 0, 1)", () -> x.hatch(36, 0, 1));
+        Check.noSuch("hatch(0, -1, 1)", () -> x.hatch(0, -1, 1));
+        Check.noSuch("hatch(0, 36, 1)", () -> x.hatch(0, 36, 1));
         for (int k : FAR) {
-            noSuch("hatch(" + k + ", 0, 1)", () -> x.hatch(k, 0, 1));
-            noSuch("hatch(0, " + k + ", 1)", () -> x.hatch(0, k, 1));
+            Check.noSuch("hatch(" + k + ", 0, 1)", () -> x.hatch(k, 0, 1));
+            Check.noSuch("hatch(0, " + k + ", 1)", () -> x.hatch(0, k, 1));
         }
         Check.due("hatch(0, 35, 1)", x.hatch(0, 35, 1), 0);
         Check.due("hatch(35, 0, 1)", x.hatch(35, 0, 1), 1);
@@ -266,11 +249,11 @@ public final class EdgesOfActionsTest {
 
     private static void hatchNoLength() {
         LongCaterpillars x = new LongCaterpillars();
-        refused("hatch(0, 0, 0)", () -> x.hatch(0, 0, 0));
-        refused("hatch(0, 0, 10)", () -> x.hatch(0, 0, 10));
-        refused("hatch(0, 0, -1)", () -> x.hatch(0, 0, -1));
+        Check.refused("hatch(0, 0, 0)", () -> x.hatch(0, 0, 0));
+        Check.refused("hatch(0, 0, 10)", () -> x.hatch(0, 0, 10));
+        Check.refused("hatch(0, 0, -1)", () -> x.hatch(0, 0, -1));
         for (int length : FAR) {
-            refused("hatch(0, 0, " + length + ")", () -> x.hatch(0, 0, length));
+            Check.refused("hatch(0, 0, " + length + ")", () -> x.hatch(0, 0, length));
         }
         Check.due("hatch(0, 0, 1)", x.hatch(0, 0, 1), 0);
         Check.due("hatch(0, 0, 9)", x.hatch(0, 0, 9), 1);
@@ -278,17 +261,17 @@ public final class EdgesOfActionsTest {
 
     private static void hatchFull() {
         LongCaterpillars x = Check.house(TEN_APART);
-        notNow("hatch number 11", () -> x.hatch(0, 0, 1));
+        Check.notNow("hatch number 11", () -> x.hatch(0, 0, 1));
         x.pull(9);
-        notNow("hatch number 11, one pulled", () -> x.hatch(0, 0, 1));
+        Check.notNow("hatch number 11, one pulled", () -> x.hatch(0, 0, 1));
         x.ticks(2);
-        notNow("hatch number 11, nine gone", () -> x.hatch(0, 0, 1));
+        Check.notNow("hatch number 11, nine gone", () -> x.hatch(0, 0, 1));
         Check.due("about(0)", x.about(0), 10);
         LongCaterpillars y = new LongCaterpillars();
         for (int i = 0; i < 10; i++) {
             y.hatch(0, 0, 1);
         }
-        notNow("hatch number 11", () -> y.hatch(0, 0, 1));
+        Check.notNow("hatch number 11", () -> y.hatch(0, 0, 1));
         y.undo();
         Check.due("hatch, the tenth is taken back", y.hatch(0, 0, 1), 9);
     }
@@ -318,11 +301,11 @@ public final class EdgesOfActionsTest {
 
     private static void noSuchTicks() {
         LongCaterpillars x = new LongCaterpillars();
-        refused("ticks(0)", () -> x.ticks(0));
-        refused("ticks(61)", () -> x.ticks(61));
-        refused("ticks(-1)", () -> x.ticks(-1));
+        Check.refused("ticks(0)", () -> x.ticks(0));
+        Check.refused("ticks(61)", () -> x.ticks(61));
+        Check.refused("ticks(-1)", () -> x.ticks(-1));
         for (int n : FAR) {
-            refused("ticks(" + n + ")", () -> x.ticks(n));
+            Check.refused("ticks(" + n + ")", () -> x.ticks(n));
         }
         Check.due("about(5)", x.about(5), 0);
         Check.due("ticks(1)", x.ticks(1), 0);
@@ -352,10 +335,10 @@ public final class EdgesOfActionsTest {
 
     private static void noSuchRule() {
         LongCaterpillars x = Check.house("Lr1");
-        refused("rule(-1)", () -> x.rule(-1));
-        refused("rule(3)", () -> x.rule(3));
+        Check.refused("rule(-1)", () -> x.rule(-1));
+        Check.refused("rule(3)", () -> x.rule(3));
         for (int rule : FAR) {
-            refused("rule(" + rule + ")", () -> x.rule(rule));
+            Check.refused("rule(" + rule + ")", () -> x.rule(rule));
         }
         Check.due("rule(0)", x.rule(0), 1);
         Check.due("rule(2)", x.rule(2), 0);
@@ -391,10 +374,10 @@ public final class EdgesOfActionsTest {
     private static void shutNoRoom() {
         LongCaterpillars x = new LongCaterpillars();
         for (boolean shut : new boolean[] {true, false}) {
-            noSuch("shut(-1, " + shut + ")", () -> x.shut(-1, shut));
-            noSuch("shut(36, " + shut + ")", () -> x.shut(36, shut));
+            Check.noSuch("shut(-1, " + shut + ")", () -> x.shut(-1, shut));
+            Check.noSuch("shut(36, " + shut + ")", () -> x.shut(36, shut));
             for (int k : FAR) {
-                noSuch("shut(" + k + ", " + shut + ")", () -> x.shut(k, shut));
+                Check.noSuch("shut(" + k + ", " + shut + ")", () -> x.shut(k, shut));
             }
         }
         Check.due("shut(35, true)", x.shut(35, true), 1);
@@ -407,16 +390,16 @@ public final class EdgesOfActionsTest {
         Check.due("shut(5, true), only a leaf is there", x.shut(5, true), 2);
         x.shut(0, false);
         x.ticks(4);
-        notNow("shut(3, true), its head is there", () -> x.shut(3, true));
-        notNow("shut(2, true), it lies there", () -> x.shut(2, true));
-        notNow("shut(1, true), its end is there", () -> x.shut(1, true));
+        Check.notNow("shut(3, true), its head is there", () -> x.shut(3, true));
+        Check.notNow("shut(2, true), it lies there", () -> x.shut(2, true));
+        Check.notNow("shut(1, true), its end is there", () -> x.shut(1, true));
         Check.due("shut(0, true), it has just left", x.shut(0, true), 2);
         Check.due("shut(4, true), it would go there next", x.shut(4, true), 3);
         Check.due("shut(2, false), it is not to be shut", x.shut(2, false), 3);
         x.pull(0);
         Check.due("shut(2, true), not taken any more", x.shut(2, true), 4);
         LongCaterpillars y = Check.house("Lh35351t01");
-        notNow("shut(35, true), taken", () -> y.shut(35, true));
+        Check.notNow("shut(35, true), taken", () -> y.shut(35, true));
         y.ticks(1);
         Check.due("shut(35, true), it is gone", y.shut(35, true), 1);
     }
@@ -461,31 +444,31 @@ public final class EdgesOfActionsTest {
 
     private static void pullNoSuch() {
         LongCaterpillars x = Check.house("Lh00001h00001");
-        noSuch("pull(-1)", () -> x.pull(-1));
-        noSuch("pull(2)", () -> x.pull(2));
-        noSuch("pull(10)", () -> x.pull(10));
-        noSuch("pull(0), empty", () -> new LongCaterpillars().pull(0));
+        Check.noSuch("pull(-1)", () -> x.pull(-1));
+        Check.noSuch("pull(2)", () -> x.pull(2));
+        Check.noSuch("pull(10)", () -> x.pull(10));
+        Check.noSuch("pull(0), empty", () -> new LongCaterpillars().pull(0));
         LongCaterpillars full = Check.house(TEN_APART);
-        noSuch("pull(10), full", () -> full.pull(10));
+        Check.noSuch("pull(10), full", () -> full.pull(10));
         Check.due("pull(9), full", full.pull(9), 0);
         for (int i : FAR) {
-            noSuch("pull(" + i + ")", () -> x.pull(i));
+            Check.noSuch("pull(" + i + ")", () -> x.pull(i));
         }
     }
 
     private static void pullGoneOrPulled() {
         LongCaterpillars x = Check.house("Lh00001h07079h35359t02p1");
-        notNow("pull(0), gone", () -> x.pull(0));
-        notNow("pull(1), pulled from its rooms", () -> x.pull(1));
+        Check.notNow("pull(0), gone", () -> x.pull(0));
+        Check.notNow("pull(1), pulled from its rooms", () -> x.pull(1));
         Check.due("pull(2), eats", x.pull(2), 1);
         x.hatch(0, 0, 1);
         x.pull(3);
-        notNow("pull(3), pulled from its crack", () -> x.pull(3));
+        Check.notNow("pull(3), pulled from its crack", () -> x.pull(3));
         LongCaterpillars y = Check.house("Lh00001t01");
         Check.due("pull(0), a tick before it is gone", y.pull(0), 1);
         y.undo();
         y.ticks(1);
-        notNow("pull(0), gone just now", () -> y.pull(0));
+        Check.notNow("pull(0), gone just now", () -> y.pull(0));
     }
 
     private static void takesBackTheLast() {
@@ -505,10 +488,10 @@ public final class EdgesOfActionsTest {
         String before = Reading.state(y);
         y.ticks(60);
         y.undo();
-        same("sixty ticks taken back", y, before);
+        Check.dueState("sixty ticks taken back", y, before);
         // a call that threw is not the last one
         y.rule(1);
-        refused("rule(9)", () -> y.rule(9));
+        Check.refused("rule(9)", () -> y.rule(9));
         Check.due("undo() of the one before", y.undo(), 0);
         Check.due("about(8)", y.about(8), 0);
     }
@@ -527,17 +510,17 @@ public final class EdgesOfActionsTest {
 
     private static void noneRemembered() {
         LongCaterpillars x = Check.withText("Lr1t02");
-        notNow("undo(), new", x::undo);
+        Check.notNow("undo(), new", x::undo);
         x.load();
-        notNow("undo(), loaded", x::undo);
+        Check.notNow("undo(), loaded", x::undo);
         x.save(1);
-        notNow("undo(), saved", x::undo);
+        Check.notNow("undo(), saved", x::undo);
         x.ticks(1);
         x.restore(1);
-        notNow("undo(), restored", x::undo);
+        Check.notNow("undo(), restored", x::undo);
         x.ticks(1);
         x.undo();
-        notNow("undo(), all taken back", x::undo);
+        Check.notNow("undo(), all taken back", x::undo);
         Check.due("about(5)", x.about(5), 2);
     }
 }

@@ -43,7 +43,7 @@ public final class EdgesOfExceptionsTest {
         x.hatch(12, 12, 2);
         x.ticks(2);
         x.save(1);
-        x.rule(2);
+        x.rule(1);
         x.pull(4);
         x.ticks(1);
         return x;

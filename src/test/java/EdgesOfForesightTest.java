@@ -117,18 +117,18 @@ public final class EdgesOfForesightTest {
 
     private static void goneInOfNoSuch() {
         LongCaterpillars x = Check.house("Lh00001");
-        Check.dueThrow("goneIn(-1)", IndexOutOfBoundsException.class, () -> x.goneIn(-1));
-        Check.dueThrow("goneIn(1)", IndexOutOfBoundsException.class, () -> x.goneIn(1));
-        Check.dueThrow("goneIn(10)", IndexOutOfBoundsException.class, () -> x.goneIn(10));
+        Check.noSuch("goneIn(-1)", () -> x.goneIn(-1));
+        Check.noSuch("goneIn(1)", () -> x.goneIn(1));
+        Check.noSuch("goneIn(10)", () -> x.goneIn(10));
         for (int i : FAR) {
-            Check.dueThrow("goneIn(" + i + ")", IndexOutOfBoundsException.class, () -> x.goneIn(i));
+            Check.noSuch("goneIn(" + i + ")", () -> x.goneIn(i));
         }
         LongCaterpillars empty = new LongCaterpillars();
-        Check.dueThrow("goneIn(0), empty", IndexOutOfBoundsException.class, () -> empty.goneIn(0));
+        Check.noSuch("goneIn(0), empty", () -> empty.goneIn(0));
         LongCaterpillars full = Check.house("L" + "h00001".repeat(10));
         // one comes out in the tick in which the one before it is gone
         Check.due("goneIn(9), full", full.goneIn(9), 11);
-        Check.dueThrow("goneIn(10), full", IndexOutOfBoundsException.class, () -> full.goneIn(10));
+        Check.noSuch("goneIn(10), full", () -> full.goneIn(10));
     }
 
     private static void throughIn(String text, int due) {
@@ -325,10 +325,8 @@ public final class EdgesOfForesightTest {
             LongCaterpillars x = Check.house("L" + "h00001".repeat(count));
             int[] none = {-1, 36, Integer.MIN_VALUE, Integer.MAX_VALUE};
             for (int k : none) {
-                Check.dueThrow("ifHatched(" + k + ", 0, 1), " + count + " there", IndexOutOfBoundsException.class,
-                        () -> x.ifHatched(k, 0, 1));
-                Check.dueThrow("ifHatched(0, " + k + ", 1), " + count + " there", IndexOutOfBoundsException.class,
-                        () -> x.ifHatched(0, k, 1));
+                Check.noSuch("ifHatched(" + k + ", 0, 1), " + count + " there", () -> x.ifHatched(k, 0, 1));
+                Check.noSuch("ifHatched(0, " + k + ", 1), " + count + " there", () -> x.ifHatched(0, k, 1));
             }
         }
     }
@@ -338,8 +336,8 @@ public final class EdgesOfForesightTest {
             LongCaterpillars x = Check.house("L" + "h00001".repeat(count));
             int[] none = {0, 10, -1, Integer.MIN_VALUE, Integer.MAX_VALUE};
             for (int length : none) {
-                Check.dueThrow("ifHatched(35, 35, " + length + "), " + count + " there",
-                        IllegalArgumentException.class, () -> x.ifHatched(35, 35, length));
+                Check.refused("ifHatched(35, 35, " + length + "), " + count + " there",
+                        () -> x.ifHatched(35, 35, length));
             }
             Check.due("ifHatched(35, 35, 1), " + count + " there", x.ifHatched(35, 35, 1), count < 10 ? 2 : NONE);
             Check.due("ifHatched(35, 35, 9), " + count + " there", x.ifHatched(35, 35, 9), count < 10 ? 10 : NONE);

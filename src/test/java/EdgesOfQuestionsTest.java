@@ -59,14 +59,6 @@ public final class EdgesOfQuestionsTest {
         Check.end();
     }
 
-    private static void noSuch(String call, Check.Call made) {
-        Check.dueThrow(call, IndexOutOfBoundsException.class, made);
-    }
-
-    private static void refused(String call, Check.Call made) {
-        Check.dueThrow(call, IllegalArgumentException.class, made);
-    }
-
     private static void aNewObject() {
         LongCaterpillars x = new LongCaterpillars();
         for (int what = 0; what <= 9; what++) {
@@ -78,7 +70,7 @@ public final class EdgesOfQuestionsTest {
         }
         for (int i = 0; i < 10; i++) {
             int none = i;
-            noSuch("caterpillar(" + i + ", 0)", () -> x.caterpillar(none, 0));
+            Check.noSuch("caterpillar(" + i + ", 0)", () -> x.caterpillar(none, 0));
         }
         Check.due("throughIn()", x.throughIn(), 0);
         Check.due("errorPosition()", x.errorPosition(), 0);
@@ -92,10 +84,10 @@ public final class EdgesOfQuestionsTest {
         LongCaterpillars x = Check.house("Lh00001");
         Check.due("about(0)", x.about(0), 1);
         Check.due("about(9)", x.about(9), 0);
-        refused("about(-1)", () -> x.about(-1));
-        refused("about(10)", () -> x.about(10));
+        Check.refused("about(-1)", () -> x.about(-1));
+        Check.refused("about(10)", () -> x.about(10));
         for (int what : FAR) {
-            refused("about(" + what + ")", () -> x.about(what));
+            Check.refused("about(" + what + ")", () -> x.about(what));
         }
     }
 
@@ -203,30 +195,30 @@ public final class EdgesOfQuestionsTest {
     private static void noSuchCaterpillar() {
         LongCaterpillars x = Check.house("Lh00001h00001");
         Check.due("caterpillar(1, 0)", x.caterpillar(1, 0), 0);
-        noSuch("caterpillar(2, 0)", () -> x.caterpillar(2, 0));
-        noSuch("caterpillar(-1, 0)", () -> x.caterpillar(-1, 0));
-        noSuch("caterpillar(10, 0)", () -> x.caterpillar(10, 0));
+        Check.noSuch("caterpillar(2, 0)", () -> x.caterpillar(2, 0));
+        Check.noSuch("caterpillar(-1, 0)", () -> x.caterpillar(-1, 0));
+        Check.noSuch("caterpillar(10, 0)", () -> x.caterpillar(10, 0));
         for (int i : FAR) {
-            noSuch("caterpillar(" + i + ", 0)", () -> x.caterpillar(i, 0));
+            Check.noSuch("caterpillar(" + i + ", 0)", () -> x.caterpillar(i, 0));
         }
         LongCaterpillars full = Check.house(TEN_APART);
         Check.due("caterpillar(9, 6), full", full.caterpillar(9, 6), 9);
-        noSuch("caterpillar(10, 6), full", () -> full.caterpillar(10, 6));
+        Check.noSuch("caterpillar(10, 6), full", () -> full.caterpillar(10, 6));
         // one that was taken back is none
         LongCaterpillars y = new LongCaterpillars();
         y.hatch(0, 0, 1);
         y.undo();
-        noSuch("caterpillar(0, 0), undone", () -> y.caterpillar(0, 0));
+        Check.noSuch("caterpillar(0, 0), undone", () -> y.caterpillar(0, 0));
     }
 
     private static void noSuchNumberOfACaterpillar() {
         LongCaterpillars x = Check.house("Lh07095");
         Check.due("caterpillar(0, 0)", x.caterpillar(0, 0), 0);
         Check.due("caterpillar(0, 8)", x.caterpillar(0, 8), 5);
-        refused("caterpillar(0, -1)", () -> x.caterpillar(0, -1));
-        refused("caterpillar(0, 9)", () -> x.caterpillar(0, 9));
+        Check.refused("caterpillar(0, -1)", () -> x.caterpillar(0, -1));
+        Check.refused("caterpillar(0, 9)", () -> x.caterpillar(0, 9));
         for (int what : FAR) {
-            refused("caterpillar(0, " + what + ")", () -> x.caterpillar(0, what));
+            Check.refused("caterpillar(0, " + what + ")", () -> x.caterpillar(0, what));
         }
     }
 
@@ -317,11 +309,11 @@ public final class EdgesOfQuestionsTest {
 
     private static void liesOfNoSuch() {
         LongCaterpillars x = Check.house("Lh00059t03");
-        noSuch("lies(-1, 0)", () -> x.lies(-1, 0));
-        noSuch("lies(1, 0)", () -> x.lies(1, 0));
-        noSuch("lies(10, 0)", () -> x.lies(10, 0));
+        Check.noSuch("lies(-1, 0)", () -> x.lies(-1, 0));
+        Check.noSuch("lies(1, 0)", () -> x.lies(1, 0));
+        Check.noSuch("lies(10, 0)", () -> x.lies(10, 0));
         for (int i : FAR) {
-            noSuch("lies(" + i + ", 0)", () -> x.lies(i, 0));
+            Check.noSuch("lies(" + i + ", 0)", () -> x.lies(i, 0));
         }
     }
 
@@ -330,11 +322,11 @@ public final class EdgesOfQuestionsTest {
         if (rooms > 0) {
             Check.due("room of lies(0, " + (rooms - 1) + ") of " + text, x.room(x.lies(0, rooms - 1), 0), 0);
         }
-        noSuch("lies(0, " + rooms + ") of " + text, () -> x.lies(0, rooms));
-        noSuch("lies(0, 9) of " + text, () -> x.lies(0, 9));
-        noSuch("lies(0, -1) of " + text, () -> x.lies(0, -1));
+        Check.noSuch("lies(0, " + rooms + ") of " + text, () -> x.lies(0, rooms));
+        Check.noSuch("lies(0, 9) of " + text, () -> x.lies(0, 9));
+        Check.noSuch("lies(0, -1) of " + text, () -> x.lies(0, -1));
         for (int k : FAR) {
-            noSuch("lies(0, " + k + ") of " + text, () -> x.lies(0, k));
+            Check.noSuch("lies(0, " + k + ") of " + text, () -> x.lies(0, k));
         }
     }
 
@@ -388,21 +380,21 @@ public final class EdgesOfQuestionsTest {
         Check.due("room(35, 1)", x.room(35, 1), 1);
         for (int what = 0; what <= 1; what++) {
             int asked = what;
-            noSuch("room(-1, " + what + ")", () -> x.room(-1, asked));
-            noSuch("room(36, " + what + ")", () -> x.room(36, asked));
+            Check.noSuch("room(-1, " + what + ")", () -> x.room(-1, asked));
+            Check.noSuch("room(36, " + what + ")", () -> x.room(36, asked));
             for (int k : FAR) {
-                noSuch("room(" + k + ", " + what + ")", () -> x.room(k, asked));
+                Check.noSuch("room(" + k + ", " + what + ")", () -> x.room(k, asked));
             }
         }
     }
 
     private static void noSuchNumberOfARoom() {
         LongCaterpillars x = new LongCaterpillars();
-        refused("room(0, -1)", () -> x.room(0, -1));
-        refused("room(0, 2)", () -> x.room(0, 2));
-        refused("room(35, 2)", () -> x.room(35, 2));
+        Check.refused("room(0, -1)", () -> x.room(0, -1));
+        Check.refused("room(0, 2)", () -> x.room(0, 2));
+        Check.refused("room(35, 2)", () -> x.room(35, 2));
         for (int what : FAR) {
-            refused("room(0, " + what + ")", () -> x.room(0, what));
+            Check.refused("room(0, " + what + ")", () -> x.room(0, what));
         }
     }
 
@@ -438,12 +430,12 @@ public final class EdgesOfQuestionsTest {
 
     private static void nextOfNoSuch() {
         LongCaterpillars x = Check.house("Lh00351");
-        noSuch("next(-1)", () -> x.next(-1));
-        noSuch("next(1)", () -> x.next(1));
-        noSuch("next(10)", () -> x.next(10));
-        noSuch("next(0), empty", () -> new LongCaterpillars().next(0));
+        Check.noSuch("next(-1)", () -> x.next(-1));
+        Check.noSuch("next(1)", () -> x.next(1));
+        Check.noSuch("next(10)", () -> x.next(10));
+        Check.noSuch("next(0), empty", () -> new LongCaterpillars().next(0));
         for (int i : FAR) {
-            noSuch("next(" + i + ")", () -> x.next(i));
+            Check.noSuch("next(" + i + ")", () -> x.next(i));
         }
     }
 
@@ -474,12 +466,12 @@ public final class EdgesOfQuestionsTest {
 
     private static void waitsForOfNoSuch() {
         LongCaterpillars x = Check.house("Lh00351");
-        noSuch("waitsFor(-1)", () -> x.waitsFor(-1));
-        noSuch("waitsFor(1)", () -> x.waitsFor(1));
-        noSuch("waitsFor(10)", () -> x.waitsFor(10));
-        noSuch("waitsFor(0), empty", () -> new LongCaterpillars().waitsFor(0));
+        Check.noSuch("waitsFor(-1)", () -> x.waitsFor(-1));
+        Check.noSuch("waitsFor(1)", () -> x.waitsFor(1));
+        Check.noSuch("waitsFor(10)", () -> x.waitsFor(10));
+        Check.noSuch("waitsFor(0), empty", () -> new LongCaterpillars().waitsFor(0));
         for (int i : FAR) {
-            noSuch("waitsFor(" + i + ")", () -> x.waitsFor(i));
+            Check.noSuch("waitsFor(" + i + ")", () -> x.waitsFor(i));
         }
     }
 
@@ -520,11 +512,11 @@ public final class EdgesOfQuestionsTest {
 
     private static void ringRefuses() {
         LongCaterpillars x = Check.house("Lh00032h03002t02");
-        refused("ring(-1)", () -> x.ring(-1));
-        refused("ring(2)", () -> x.ring(2));
+        Check.refused("ring(-1)", () -> x.ring(-1));
+        Check.refused("ring(2)", () -> x.ring(2));
         for (int what : FAR) {
-            refused("ring(" + what + ")", () -> x.ring(what));
+            Check.refused("ring(" + what + ")", () -> x.ring(what));
         }
-        refused("ring(2), no ring", () -> new LongCaterpillars().ring(2));
+        Check.refused("ring(2), no ring", () -> new LongCaterpillars().ring(2));
     }
 }

@@ -41,6 +41,9 @@ public final class EdgesOfScriptsTest {
         Check.sentence("24: commands with rooms or caterpillars that do not exist fail",
                 EdgesOfScriptsTest::failIfThereIsNoSuch);
         Check.sentence("24: and so does any other group", EdgesOfScriptsTest::allGroups);
+        Check.sentence("24: (also one with another digit where a 0 is written", EdgesOfScriptsTest::anotherDigitForA0);
+        Check.sentence("24: or a b above 1)", EdgesOfScriptsTest::bAbove1);
+        Check.sentence("24: nn, cc, ll, kk and nnn are decimal numbers", EdgesOfScriptsTest::decimalNumbers);
         Check.sentence("24: Runs a script on a copy of the state", EdgesOfScriptsTest::onACopy);
         Check.sentence("24: Returns the index, from 0, of the first command that fails",
                 EdgesOfScriptsTest::firstThatFails);
@@ -80,8 +83,7 @@ public final class EdgesOfScriptsTest {
 
     private static void refused(int n, long script) {
         LongCaterpillars x = Check.house(SOME);
-        Check.dueThrow("runScript(" + n + ", " + script + ")", IllegalArgumentException.class,
-                () -> x.runScript(n, script));
+        Check.refused("runScript(" + n + ", " + script + ")", () -> x.runScript(n, script));
     }
 
     private static void oneToThreeCommands() {
@@ -350,14 +352,62 @@ public final class EdgesOfScriptsTest {
         }
     }
 
+    /** The group succeeds, but not with another digit at one of the places, of which 1 is that of the last digit. */
+    private static void zeros(int group, int... places) {
+        succeeds(SOME, group);
+        for (int place : places) {
+            for (int digit = 1; digit <= 9; digit++) {
+                fails(SOME, group + digit * place);
+            }
+        }
+    }
+
+    private static void anotherDigitForA0() {
+        zeros(100001, 10_000, 1000, 100);
+        zeros(300001, 10_000, 1000, 100, 10);
+        zeros(410000, 100, 10);
+        zeros(410001, 100, 10);
+        zeros(500000, 10_000, 1000, 100, 10);
+        zeros(600001, 10_000, 100, 10);
+        zeros(700000, 100, 10);
+        zeros(800000, 10_000, 1000, 100, 10);
+        zeros(900005, 10_000, 1000);
+        // nor is a 0 the first digit of a command
+        for (int group = 0; group < 100_000; group += 11_111) {
+            fails(SOME, group);
+        }
+    }
+
+    private static void bAbove1() {
+        for (int b = 2; b <= 9; b++) {
+            fails(SOME, 410000 + b);
+            fails(SOME, 400000 + b);
+            fails(SOME, 800000 + b);
+            fails("Lh00032h03002t02", 800000 + b);
+        }
+    }
+
+    private static void decimalNumbers() {
+        script("Lh00009", 2, 100010_600002L, NONE);
+        script("Lh00009", 2, 100009_600001L, NONE);
+        script("L", 3, 210119_100001_710000L, NONE);
+        script("L", 3, 210119_100002_711000L, NONE);
+        script("Lh10101", 2, 410001_900999L, 1);
+        script("Lx10h10101", 2, 410000_900002L, NONE);
+        fails("L" + "h00009".repeat(10), 900090);
+        succeeds("L" + "h00009".repeat(10), 900091);
+        succeeds("Lh00009", 900010);
+        fails("Lh00009", 900009);
+    }
+
     private static void onACopy() {
         LongCaterpillars x = Check.house(SOME);
         String before = Reading.state(x);
         x.runScript(3, 500000_200359_100060L);
         x.runScript(3, 300002_410000_420001L);
         x.runScript(3, 100060_100060_999999L);
-        Check.due("the state stays", Reading.state(x).equals(before) ? 1 : 0, 1);
-        Check.dueThrow("undo() behind scripts", IllegalStateException.class, x::undo);
+        Check.dueState("the state stays", x, before);
+        Check.notNow("undo() behind scripts", x::undo);
         // each script begins with the state as it is
         Check.due("runScript(2, pull)", x.runScript(2, 500000_600003L), NONE);
         Check.due("runScript(2, pull) again", x.runScript(2, 500000_600003L), NONE);
@@ -469,30 +519,12 @@ public final class EdgesOfScriptsTest {
         for (int turn = 0; turn < m; turn++) {
             number = number.multiply(BigInteger.valueOf(FACTOR)).add(BigInteger.valueOf(SUMMAND)).mod(wrap);
             try {
-                turnByTheFace(x, number.shiftRight(33).intValueExact());
+                Turns.byTheFace(x, number.shiftRight(33).intValueExact());
             } catch (IndexOutOfBoundsException | IllegalArgumentException | IllegalStateException e) {
                 continue;
             }
         }
         return 1000 * x.about(3) + Math.min(999, x.about(9) - waits);
-    }
-
-    private static void turnByTheFace(LongCaterpillars x, int r) {
-        int q = r / 8;
-        int kind = r % 8;
-        if (kind <= 2) {
-            x.hatch(q % 36, q / 36 % 36, 1 + q / 1296 % 9);
-        } else if (kind == 3 && q / 4 % 4 == 0) {
-            x.rule(q % 3);
-        } else if (kind == 3) {
-            x.shut(q % 36, q / 64 % 4 == 0);
-        } else if (kind == 4 && q / 16 % 4 == 0) {
-            x.pull(q % 10);
-        } else if (kind == 4) {
-            x.ticks(1);
-        } else {
-            x.ticks(1 + q % 12);
-        }
     }
 
     private static void anySeed() {
@@ -660,8 +692,8 @@ public final class EdgesOfScriptsTest {
         x.simulate(seedOf(8 * 1 + 3), 1);
         x.simulate(seedOf(TWELVE_TICKS), 1);
         x.simulate(seedOf(0), 1);
-        Check.due("the state stays", Reading.state(x).equals(before) ? 1 : 0, 1);
-        Check.dueThrow("undo() behind simulations", IllegalStateException.class, x::undo);
+        Check.dueState("the state stays", x, before);
+        Check.notNow("undo() behind simulations", x::undo);
         Check.due("the same simulation answers the same", x.simulate(5, 60), first);
     }
 
@@ -708,7 +740,7 @@ public final class EdgesOfScriptsTest {
         for (int m = 1; m <= 60 && x.about(9) < 1000; m++) {
             number = after(number);
             try {
-                turnByTheFace(x, numberOf(number));
+                Turns.byTheFace(x, numberOf(number));
             } catch (IndexOutOfBoundsException | IllegalArgumentException | IllegalStateException e) {
                 continue;
             }
@@ -726,8 +758,7 @@ public final class EdgesOfScriptsTest {
         long[] seeds = {0, 1, -1, Long.MIN_VALUE, Long.MAX_VALUE};
         for (int m : none) {
             for (long seed : seeds) {
-                Check.dueThrow("simulate(" + seed + ", " + m + ")", IllegalArgumentException.class,
-                        () -> x.simulate(seed, m));
+                Check.refused("simulate(" + seed + ", " + m + ")", () -> x.simulate(seed, m));
             }
         }
     }

@@ -22,15 +22,6 @@ public final class EdgesOfSlotsTest {
         Check.end();
     }
 
-    private static void same(String what, LongCaterpillars x, String due) {
-        String got = Reading.state(x);
-        Check.due(what + " (" + got + ", due is " + due + ")", got.equals(due) ? 1 : 0, 1);
-    }
-
-    private static void notNow(String call, Check.Call made) {
-        Check.dueThrow(call, IllegalStateException.class, made);
-    }
-
     /** Ten caterpillars, the last of which are out, in their cracks, gone and pulled. */
     private static LongCaterpillars full() {
         return Check.house("Lr2x14h00359h35009h05309h30059h21211h12121h00359h35351h28289t05p5x20p6h07089");
@@ -40,12 +31,12 @@ public final class EdgesOfSlotsTest {
         LongCaterpillars x = full();
         String due = Reading.state(x);
         Check.due("save(1)", x.save(1), 5);
-        same("saved, the state is as it was", x, due);
+        Check.dueState("saved, the state is as it was", x, due);
         x.ticks(60);
         x.rule(0);
         x.shut(14, false);
         x.restore(1);
-        same("restored", x, due);
+        Check.dueState("restored", x, due);
         // an empty house is a state as well
         LongCaterpillars y = new LongCaterpillars();
         String empty = Reading.state(y);
@@ -53,10 +44,10 @@ public final class EdgesOfSlotsTest {
         y.hatch(0, 0, 1);
         y.ticks(3);
         y.restore(0);
-        same("restored, an empty house", y, empty);
+        Check.dueState("restored, an empty house", y, empty);
         // save is no action
         y.save(0);
-        notNow("undo() behind save", y::undo);
+        Check.notNow("undo() behind save", y::undo);
     }
 
     private static void twoSlots() {
@@ -91,10 +82,10 @@ public final class EdgesOfSlotsTest {
     private static void saveNoSlot() {
         LongCaterpillars x = new LongCaterpillars();
         for (int slot : NO_SLOTS) {
-            Check.dueThrow("save(" + slot + ")", IndexOutOfBoundsException.class, () -> x.save(slot));
+            Check.noSuch("save(" + slot + ")", () -> x.save(slot));
         }
-        notNow("restore(0) behind them", () -> x.restore(0));
-        notNow("restore(1) behind them", () -> x.restore(1));
+        Check.notNow("restore(0) behind them", () -> x.restore(0));
+        Check.notNow("restore(1) behind them", () -> x.restore(1));
     }
 
     private static void replaces() {
@@ -108,7 +99,7 @@ public final class EdgesOfSlotsTest {
         Check.due("about(0), restored", x.about(0), 0);
         Check.due("about(6), restored", x.about(6), 0);
         x.restore(1);
-        same("restored from the other slot", x, due);
+        Check.dueState("restored from the other slot", x, due);
         // but not the text
         Check.write(x, "Lr2");
         x.restore(0);
@@ -123,7 +114,7 @@ public final class EdgesOfSlotsTest {
             x.ticks(1);
         }
         x.restore(0);
-        notNow("undo() behind restore", x::undo);
+        Check.notNow("undo() behind restore", x::undo);
         for (int k = 0; k < 3; k++) {
             x.ticks(1);
         }
@@ -131,7 +122,7 @@ public final class EdgesOfSlotsTest {
             Check.due("undo() of what came behind", x.undo(), k);
         }
         Check.due("about(5), as restored", x.about(5), 1);
-        notNow("undo(), all taken back", x::undo);
+        Check.notNow("undo(), all taken back", x::undo);
         // undo goes on though a state was saved
         x.ticks(1);
         x.save(1);
@@ -145,7 +136,7 @@ public final class EdgesOfSlotsTest {
         for (int times = 0; times < 2; times++) {
             x.ticks(40);
             x.restore(0);
-            same("restored, times " + times, x, due);
+            Check.dueState("restored, times " + times, x, due);
         }
         // what is done behind restore does not come into the slot
         x.pull(0);
@@ -179,7 +170,7 @@ public final class EdgesOfSlotsTest {
         LongCaterpillars x = new LongCaterpillars();
         for (int times = 0; times < 2; times++) {
             for (int slot : NO_SLOTS) {
-                Check.dueThrow("restore(" + slot + ")", IndexOutOfBoundsException.class, () -> x.restore(slot));
+                Check.noSuch("restore(" + slot + ")", () -> x.restore(slot));
             }
             x.save(0);
             x.save(1);
@@ -190,15 +181,15 @@ public final class EdgesOfSlotsTest {
 
     private static void nothingSaved() {
         LongCaterpillars x = new LongCaterpillars();
-        notNow("restore(0), new", () -> x.restore(0));
-        notNow("restore(1), new", () -> x.restore(1));
+        Check.notNow("restore(0), new", () -> x.restore(0));
+        Check.notNow("restore(1), new", () -> x.restore(1));
         x.ticks(1);
         x.save(1);
-        notNow("restore(0), 1 alone is saved", () -> x.restore(0));
+        Check.notNow("restore(0), 1 alone is saved", () -> x.restore(0));
         Check.due("restore(1)", x.restore(1), 1);
         LongCaterpillars y = new LongCaterpillars();
         y.save(0);
-        notNow("restore(1), 0 alone is saved", () -> y.restore(1));
+        Check.notNow("restore(1), 0 alone is saved", () -> y.restore(1));
         Check.due("restore(0)", y.restore(0), 0);
     }
 
@@ -208,17 +199,17 @@ public final class EdgesOfSlotsTest {
         x.save(0);
         x.save(1);
         x.load();
-        notNow("restore(0) behind load", () -> x.restore(0));
-        notNow("restore(1) behind load", () -> x.restore(1));
+        Check.notNow("restore(0) behind load", () -> x.restore(0));
+        Check.notNow("restore(1) behind load", () -> x.restore(1));
         x.save(1);
         Check.due("restore(1), saved since", x.restore(1), 2);
-        notNow("restore(0), not saved since", () -> x.restore(0));
+        Check.notNow("restore(0), not saved since", () -> x.restore(0));
         x.load();
-        notNow("restore(1) behind another load", () -> x.restore(1));
+        Check.notNow("restore(1) behind another load", () -> x.restore(1));
         // a load that throws is none
         x.save(0);
         x.append('x');
-        notNow("load(), no house", x::load);
+        Check.notNow("load(), no house", x::load);
         Check.due("restore(0) behind it", x.restore(0), 2);
     }
 }

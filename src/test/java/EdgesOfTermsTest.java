@@ -1,4 +1,4 @@
-/** The sentences of the document's "Terms" up to WAITING that name a boundary case, a test for each. */
+/** The sentences of "What it is" and of "Terms" up to WAITING that name a boundary case, a test for each. */
 public final class EdgesOfTermsTest {
 
     private static final int NONE = LongCaterpillars.NONE;
@@ -7,6 +7,8 @@ public final class EdgesOfTermsTest {
     }
 
     public static void main(String[] args) {
+        Check.sentence("An object is used for at most 512 calls after it has been made",
+                EdgesOfTermsTest::the512thCall);
         Check.sentence("The house has 36 rooms, 0 to 35", EdgesOfTermsTest::roomsThatExist);
         Check.sentence("in 6 rows of 6", EdgesOfTermsTest::rowsEndAtTheWalls);
         Check.sentence("A room is open (at first) or shut", EdgesOfTermsTest::openAtFirst);
@@ -50,6 +52,20 @@ public final class EdgesOfTermsTest {
         Check.end();
     }
 
+    private static void the512thCall() {
+        // the most ticks and the most waits that there can be: 11 calls, 499 times 60 ticks, and two questions
+        LongCaterpillars x = new LongCaterpillars();
+        x.shut(0, true);
+        for (int i = 0; i < 10; i++) {
+            x.hatch(0, 0, 1);
+        }
+        for (int k = 0; k < 499; k++) {
+            x.ticks(60);
+        }
+        Check.due("about(9), the call 511", x.about(9), 299_400);
+        Check.due("about(5), the call 512", x.about(5), 29_940);
+    }
+
     private static final int[] NO_ROOMS = {-1, 36, Integer.MIN_VALUE, Integer.MAX_VALUE};
 
     private static void roomsThatExist() {
@@ -64,19 +80,15 @@ public final class EdgesOfTermsTest {
         }
         for (int k : NO_ROOMS) {
             LongCaterpillars x = new LongCaterpillars();
-            noRoom("room(" + k + ", 0)", () -> x.room(k, 0));
-            noRoom("room(" + k + ", 1)", () -> x.room(k, 1));
-            noRoom("shut(" + k + ", true)", () -> x.shut(k, true));
-            noRoom("shut(" + k + ", false)", () -> x.shut(k, false));
-            noRoom("hatch(" + k + ", 0, 1)", () -> x.hatch(k, 0, 1));
-            noRoom("hatch(0, " + k + ", 1)", () -> x.hatch(0, k, 1));
-            noRoom("ifHatched(" + k + ", 0, 1)", () -> x.ifHatched(k, 0, 1));
-            noRoom("ifHatched(0, " + k + ", 1)", () -> x.ifHatched(0, k, 1));
+            Check.noSuch("room(" + k + ", 0)", () -> x.room(k, 0));
+            Check.noSuch("room(" + k + ", 1)", () -> x.room(k, 1));
+            Check.noSuch("shut(" + k + ", true)", () -> x.shut(k, true));
+            Check.noSuch("shut(" + k + ", false)", () -> x.shut(k, false));
+            Check.noSuch("hatch(" + k + ", 0, 1)", () -> x.hatch(k, 0, 1));
+            Check.noSuch("hatch(0, " + k + ", 1)", () -> x.hatch(0, k, 1));
+            Check.noSuch("ifHatched(" + k + ", 0, 1)", () -> x.ifHatched(k, 0, 1));
+            Check.noSuch("ifHatched(0, " + k + ", 1)", () -> x.ifHatched(0, k, 1));
         }
-    }
-
-    private static void noRoom(String call, Check.Call made) {
-        Check.dueThrow(call, IndexOutOfBoundsException.class, made);
     }
 
     /** The rooms of the head of the caterpillar 0, tick by tick. */
@@ -123,7 +135,7 @@ public final class EdgesOfTermsTest {
         }
         x.pull(2);
         Check.due("two gone, one pulled: hatch number 9", x.hatch(30, 30, 1), 9);
-        Check.dueThrow("two gone, one pulled: one more", IllegalStateException.class, () -> x.hatch(30, 30, 1));
+        Check.notNow("two gone, one pulled: one more", () -> x.hatch(30, 30, 1));
         Check.due("about(0)", x.about(0), 10);
         Check.due("about(3)", x.about(3), 2);
         Check.due("about(4)", x.about(4), 1);
@@ -131,22 +143,20 @@ public final class EdgesOfTermsTest {
 
     private static void numberedFromZero() {
         LongCaterpillars x = new LongCaterpillars();
-        Check.dueThrow("empty: caterpillar(0, 0)", IndexOutOfBoundsException.class, () -> x.caterpillar(0, 0));
+        Check.noSuch("empty: caterpillar(0, 0)", () -> x.caterpillar(0, 0));
         for (int i = 0; i < 10; i++) {
             int behind = i + 1;
             Check.due("hatch", x.hatch(i, i, 1), i);
             Check.due("caterpillar(" + i + ", 6)", x.caterpillar(i, 6), i);
-            Check.dueThrow("caterpillar(" + behind + ", 6)", IndexOutOfBoundsException.class,
-                    () -> x.caterpillar(behind, 6));
+            Check.noSuch("caterpillar(" + behind + ", 6)", () -> x.caterpillar(behind, 6));
         }
     }
 
     private static void lengths() {
         LongCaterpillars x = new LongCaterpillars();
         for (int length : new int[] {0, 10, -1, Integer.MIN_VALUE, Integer.MAX_VALUE}) {
-            Check.dueThrow("hatch, length " + length, IllegalArgumentException.class, () -> x.hatch(0, 0, length));
-            Check.dueThrow("ifHatched, length " + length, IllegalArgumentException.class,
-                    () -> x.ifHatched(0, 0, length));
+            Check.refused("hatch, length " + length, () -> x.hatch(0, 0, length));
+            Check.refused("ifHatched, length " + length, () -> x.ifHatched(0, 0, length));
         }
         Check.due("hatch, length 1", x.hatch(0, 0, 1), 0);
         Check.due("hatch, length 9", x.hatch(1, 1, 9), 1);
@@ -340,6 +350,8 @@ public final class EdgesOfTermsTest {
         parts("a shut room", x, 0, 1, 2, 1, 0, 1);
         Check.due("a shut room: lies(0, 0)", x.lies(0, 0), 1);
         Check.due("a shut room: lies(0, 1)", x.lies(0, 1), 0);
+        // no part comes out of the crack by that
+        parts("a long one", Check.house("Lh00059x02t05"), 0, 1, 2, 7, 0, 3);
         LongCaterpillars y = Check.house("Lh02029h00052t04");
         parts("a taken room", y, 1, 1, 2, 0, 0, 2);
         Check.due("a taken room: lies(1, 1)", y.lies(1, 1), 0);

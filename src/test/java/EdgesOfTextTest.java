@@ -52,7 +52,7 @@ public final class EdgesOfTextTest {
     private static void atMost120() {
         LongCaterpillars x = Check.withText(longestHouse());
         Check.due("errorPosition() of 120 characters", x.errorPosition(), NONE);
-        Check.dueThrow("append number 121", IllegalStateException.class, () -> x.append('r'));
+        Check.notNow("append number 121", () -> x.append('r'));
         Check.due("errorPosition() behind it", x.errorPosition(), NONE);
         Check.due("load() of 120 characters", x.load(), 0);
         Check.due("about(5)", x.about(5), 1);
@@ -290,7 +290,7 @@ public final class EdgesOfTextTest {
     }
 
     private static int outcomeOfLarge(LongCaterpillars x) {
-        Check.dueThrow("append('L' + 256)", IllegalArgumentException.class, () -> x.append('L' + 256));
+        Check.refused("append('L' + 256)", () -> x.append('L' + 256));
         return x.clearText();
     }
 
@@ -306,7 +306,7 @@ public final class EdgesOfTextTest {
     private static void codesOutOfRange() {
         LongCaterpillars x = new LongCaterpillars();
         for (int c : new int[] {-1, 256, -256, 65_536, Integer.MIN_VALUE, Integer.MAX_VALUE}) {
-            Check.dueThrow("append(" + c + ")", IllegalArgumentException.class, () -> x.append(c));
+            Check.refused("append(" + c + ")", () -> x.append(c));
         }
         Check.due("append(255) behind them", x.append(255), 1);
     }
@@ -316,9 +316,9 @@ public final class EdgesOfTextTest {
         for (int length = 1; length <= MOST; length++) {
             x.append('L');
         }
-        Check.dueThrow("append('L'), 120", IllegalStateException.class, () -> x.append('L'));
-        Check.dueThrow("append(0), 120", IllegalStateException.class, () -> x.append(0));
-        Check.dueThrow("append(255), 120", IllegalStateException.class, () -> x.append(255));
+        Check.notNow("append('L'), 120", () -> x.append('L'));
+        Check.notNow("append(0), 120", () -> x.append(0));
+        Check.notNow("append(255), 120", () -> x.append(255));
         Check.due("clearText()", x.clearText(), MOST);
         Check.due("append, emptied", x.append('L'), 1);
     }
@@ -327,7 +327,7 @@ public final class EdgesOfTextTest {
         LongCaterpillars x = Check.withText("Lr1");
         x.clearText();
         Check.due("errorPosition(), emptied", x.errorPosition(), 0);
-        Check.dueThrow("load(), emptied", IllegalStateException.class, x::load);
+        Check.notNow("load(), emptied", x::load);
         x.append('r');
         Check.due("errorPosition(), another text", x.errorPosition(), 0);
         x.clearText();
@@ -372,7 +372,7 @@ public final class EdgesOfTextTest {
         x.shut(35, x.room(35, 0) == NONE);
         Check.due("load()", x.load(), 0);
         String due = Reading.state(new LongCaterpillars());
-        Check.due("all is as in a new object", Reading.state(x).equals(due) ? 1 : 0, 1);
+        Check.dueState("loaded, L alone", x, due);
         Check.due("hatch(0, 0, 1)", x.hatch(0, 0, 1), 0);
         Check.due("ticks(2)", x.ticks(2), 1);
         Check.due("caterpillar(0, 5)", x.caterpillar(0, 5), 2);
@@ -388,9 +388,9 @@ public final class EdgesOfTextTest {
         y.hatch(35, 0, 9);
         y.pull(1);
         String due = Reading.state(y);
-        Check.due("loaded as done by the calls", Reading.state(x).equals(due) ? 1 : 0, 1);
+        Check.dueState("loaded once, as done by the calls", x, due);
         x.load();
-        Check.due("loaded twice as done once", Reading.state(x).equals(due) ? 1 : 0, 1);
+        Check.dueState("loaded twice, as done by the calls", x, due);
     }
 
     private static void noStateIsRemembered() {
@@ -399,11 +399,11 @@ public final class EdgesOfTextTest {
             x.ticks(1);
         }
         x.load();
-        Check.dueThrow("undo() behind load", IllegalStateException.class, x::undo);
+        Check.notNow("undo() behind load", x::undo);
         x.rule(2);
         Check.due("undo() of what came behind", x.undo(), 0);
         Check.due("about(8), as loaded", x.about(8), 1);
-        Check.dueThrow("undo() once more", IllegalStateException.class, x::undo);
+        Check.notNow("undo() once more", x::undo);
     }
 
     private static void slotsAreEmpty() {
@@ -411,11 +411,11 @@ public final class EdgesOfTextTest {
         x.save(0);
         x.save(1);
         x.load();
-        Check.dueThrow("restore(0) behind load", IllegalStateException.class, () -> x.restore(0));
-        Check.dueThrow("restore(1) behind load", IllegalStateException.class, () -> x.restore(1));
+        Check.notNow("restore(0) behind load", () -> x.restore(0));
+        Check.notNow("restore(1) behind load", () -> x.restore(1));
         Check.due("save(1)", x.save(1), 7);
         Check.due("restore(1), saved since", x.restore(1), 7);
-        Check.dueThrow("restore(0), not saved since", IllegalStateException.class, () -> x.restore(0));
+        Check.notNow("restore(0), not saved since", () -> x.restore(0));
     }
 
     private static void keepsTheText() {
@@ -448,13 +448,13 @@ public final class EdgesOfTextTest {
             x.hatch(35, 0, 3);
             x.ticks(1);
             x.save(1);
-            Check.dueThrow("load() of \"" + text + "\"", IllegalStateException.class, x::load);
+            Check.notNow("load() of \"" + text + "\"", x::load);
             Check.due("about(0) behind it", x.about(0), 1);
             Check.due("undo() behind it", x.undo(), 1);
             Check.due("restore(1) behind it", x.restore(1), 1);
             Check.due("clearText() behind it", x.clearText(), text.length());
         }
         LongCaterpillars y = Check.withText(longestHouse().substring(0, MOST - 1) + "r");
-        Check.dueThrow("load() of 120 characters, the last wrong", IllegalStateException.class, y::load);
+        Check.notNow("load() of 120 characters, the last wrong", y::load);
     }
 }

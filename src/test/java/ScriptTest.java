@@ -178,30 +178,12 @@ public final class ScriptTest {
         for (int turn = 0; turn < m; turn++) {
             r = r * 6364136223846793005L + 1442695040888963407L;
             try {
-                turnByTheFace(x, (int) (r >>> 33));
+                Turns.byTheFace(x, (int) (r >>> 33));
             } catch (IndexOutOfBoundsException | IllegalArgumentException | IllegalStateException e) {
                 continue;
             }
         }
         return 1000 * x.about(3) + Math.min(999, x.about(9) - waits);
-    }
-
-    private static void turnByTheFace(LongCaterpillars x, int r) {
-        int q = r / 8;
-        int kind = r % 8;
-        if (kind <= 2) {
-            x.hatch(q % 36, q / 36 % 36, 1 + q / 1296 % 9);
-        } else if (kind == 3 && q / 4 % 4 == 0) {
-            x.rule(q % 3);
-        } else if (kind == 3) {
-            x.shut(q % 36, q / 64 % 4 == 0);
-        } else if (kind == 4 && q / 16 % 4 == 0) {
-            x.pull(q % 10);
-        } else if (kind == 4) {
-            x.ticks(1);
-        } else {
-            x.ticks(1 + q % 12);
-        }
     }
 
     private static void refusesToSimulate() {
