@@ -20,6 +20,13 @@ final class Check {
         }
     }
 
+    static void dueWords(String call, String got, String want) {
+        looked++;
+        if (!got.equals(want)) {
+            tell(call + " answered " + got + ", due is " + want);
+        }
+    }
+
     static void dueThrow(String call, Class<? extends RuntimeException> want, Call made) {
         looked++;
         String got;
