@@ -156,7 +156,8 @@ public final class ScriptTest {
                     long mixed = seed * 0x9E3779B97F4A7C15L;
                     int due = byTheFace(text, mixed, m);
                     many += due % 1000 == 999 ? 1 : 0;
-                    Check.due("simulate(" + mixed + ", " + m + ") of " + text, Check.house(text).simulate(mixed, m), due);
+                    Check.due("simulate(" + mixed + ", " + m + ") of " + text,
+                            Check.house(text).simulate(mixed, m), due);
                 }
             }
         }
